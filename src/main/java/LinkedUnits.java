@@ -160,7 +160,7 @@ public final class LinkedUnits {
   }
 
   public int trap(int what) {
-    return what == 0 ? machine.trapObject : what == 1 ? machine.trapLine : 0;
+    return what == 0 ? store.objectAt(machine.trapPlace) : what == 1 ? machine.trapLine : 0;
   }
 
   public int written() {
@@ -397,8 +397,8 @@ public final class LinkedUnits {
 
     private boolean word() {
       int length = 1;
-      for (int c = byteAt(position + 1); isLetter(c) || isDigit(c); c = byteAt(position + length)) {
-        length++;
+      for (int c = byteAt(position + 1); length <= size && (isLetter(c) || isDigit(c)); length++) {
+        c = byteAt(position + length + 1);
       }
       if (length > LONGEST_NAME) {
         return bad(position);
@@ -435,9 +435,9 @@ public final class LinkedUnits {
     private boolean digits() {
       long value = 0;
       int length = 0;
-      for (int c = byteAt(position); isDigit(c); c = byteAt(position + length)) {
+      for (int c = byteAt(position); length <= size && isDigit(c); length++) {
         value = Math.min(value * 10 + (c - '0'), 1L << 32);
-        length++;
+        c = byteAt(position + length + 1);
       }
       return value > Integer.MAX_VALUE ? bad(position) : add(NUMBER, (int) value, length);
     }
@@ -445,9 +445,9 @@ public final class LinkedUnits {
     private boolean sixteens() {
       int value = 0;
       int length = 2;
-      for (int c = sixteenth(byteAt(position + 2)); c >= 0; c = sixteenth(byteAt(position + length))) {
+      for (int c = sixteenth(byteAt(position + 2)); length <= size && c >= 0; length++) {
         value = value * 16 + c;
-        length++;
+        c = sixteenth(byteAt(position + length + 1));
       }
       return length > 10 ? bad(position) : add(NUMBER, value, length);
     }
@@ -653,10 +653,11 @@ public final class LinkedUnits {
         int type = isVoid ? VOID : stars();
         int name = position;
         expect(Tokens.NAME);
-        if (isVoid || kind == Tokens.ROUND) {
-          function(name, type, linkage);
-        } else {
+        if (!isVoid && kind != Tokens.ROUND) {
           variables(name, type, linkage);
+        } else if (head(name, type, linkage)) {
+          statements(1);
+          add(FUNCTION_END, name, 0, 0);
         }
       }
       return wrong < 0;
@@ -664,7 +665,8 @@ public final class LinkedUnits {
 
     private void advance() {
       position++;
-      kind = position < tokens.count ? at(tokens.kinds, position) : Tokens.END;
+      boolean inside = position >= 0 && position < tokens.count && position < tokens.kinds.length;
+      kind = inside ? tokens.kinds[position] : Tokens.END;
     }
 
     private void fail() {
@@ -674,18 +676,20 @@ public final class LinkedUnits {
       kind = NOTHING;
     }
 
-    private boolean expect(int wanted) {
-      boolean found = kind == wanted;
-      if (found) {
+    private void expect(int wanted) {
+      if (kind == wanted) {
         advance();
       } else {
         fail();
       }
-      return found;
     }
 
     private boolean accept(int wanted) {
-      return kind == wanted && expect(wanted);
+      boolean found = kind == wanted;
+      if (found) {
+        advance();
+      }
+      return found;
     }
 
     private int add(int act, int token, int first, int second) {
@@ -711,7 +715,8 @@ public final class LinkedUnits {
       return stars;
     }
 
-    private void function(int name, int result, int linkage) {
+    /** What stands of a function before its body: whether it has one. */
+    private boolean head(int name, int result, int linkage) {
       expect(Tokens.ROUND);
       int signature = 0;
       if (kind == Tokens.NO_VALUE) {
@@ -724,13 +729,11 @@ public final class LinkedUnits {
       add(FUNCTION, name, signature, (result + 1) * RESULT_UNIT + linkage + (body ? WITH_BODY : 0));
       if (!body) {
         expect(Tokens.SEMICOLON);
-        return;
       }
-      for (int i = 0; i < Store.parameters(signature); i++) {
+      for (int i = 0; i < Store.parameters(signature) && body; i++) {
         add(PARAMETER, at(parameterAt, i), Store.parameter(signature, i), 0);
       }
-      statements(1);
-      add(FUNCTION_END, name, 0, 0);
+      return body;
     }
 
     /** Reads parameters and keeps where each one's name stands, or what is there instead. */
@@ -994,7 +997,8 @@ public final class LinkedUnits {
     }
 
     private static int levelOf(int sign) {
-      return at(LEVELS, sign - Tokens.SHL);
+      int i = sign - Tokens.SHL;
+      return i >= 0 && i < LEVELS.length ? LEVELS[i] : 0;
     }
 
     /** Operators wait in a row of their own, so that a level costs no call. */
@@ -1197,7 +1201,7 @@ public final class LinkedUnits {
         words[start + 1] = a;
         words[start + 2] = b;
         words[start + 3] = c;
-        length = start + at(LENGTHS, op);
+        length = start + (op >= 0 && op < LENGTHS.length ? LENGTHS[op] : 0);
       }
       return start;
     }
@@ -1337,6 +1341,16 @@ public final class LinkedUnits {
       return (at(flags, d) & flag) != 0;
     }
 
+    /** The object among whose instructions a word stands, or 0. */
+    private int objectAt(int word) {
+      for (int o = 1; o <= objects && word >= 0; o++) {
+        if (word < at(codeEnds, o)) {
+          return o;
+        }
+      }
+      return 0;
+    }
+
     private int firstOf(int o) {
       return o <= 0 ? 0 : at(declarationEnds, o - 1);
     }
@@ -1364,7 +1378,7 @@ public final class LinkedUnits {
     }
 
     private int nameStart(int d) {
-      return d <= 0 ? 0 : at(nameEnds, d - 1);
+      return at(nameEnds, d - 1);
     }
 
     private int nameByte(int d, int i) {
@@ -1374,7 +1388,7 @@ public final class LinkedUnits {
     }
 
     private boolean isNamed(int d, byte[] text, int from, int length) {
-      int start = nameStart(d);
+      int start = at(nameEnds, d - 1);
       if (at(nameEnds, d) - start != length) {
         return false;
       }
@@ -1519,12 +1533,8 @@ public final class LinkedUnits {
       return -1;
     }
 
-    private int localOf(int token) {
-      return localFrom(0, token);
-    }
-
-    private boolean isInScope(int token) {
-      return localFrom(at(scopeStarts, scopes - 1), token) >= 0;
+    private int scopeStart() {
+      return at(scopeStarts, scopes - 1);
     }
 
     private void declareLocal(int token, int type, int size) {
@@ -1816,7 +1826,7 @@ public final class LinkedUnits {
     }
 
     private void named(int token) {
-      int local = unit.localOf(token);
+      int local = unit.localFrom(0, token);
       int outer = local < 0 ? unit.outerOf(token) : -1;
       if (local < 0 && (outer < 0 || store.is(outer, Store.FUNCTION))) {
         refuse(token);
@@ -1847,7 +1857,7 @@ public final class LinkedUnits {
     }
 
     private void callee(int token) {
-      int d = unit.localOf(token) < 0 ? unit.outerOf(token) : -1;
+      int d = unit.localFrom(0, token) < 0 ? unit.outerOf(token) : -1;
       if (d < 0 || !store.is(d, Store.FUNCTION)) {
         refuse(token);
         return;
@@ -2153,15 +2163,11 @@ public final class LinkedUnits {
       given = 0;
     }
 
-    /** Takes a step: which one comes next. */
-    private int take(int step) {
+    private void take(int act, int step) {
       int token = at(grammar.ats, step);
       int first = at(grammar.firsts, step);
       int second = at(grammar.seconds, step);
-      switch (at(grammar.acts, step)) {
-        case Grammar.SIZE:
-          given = constant(step + 1, first);
-          return first + 1;
+      switch (act) {
         case Grammar.BRACKET:
           square = token;
           size = first != 0 ? given : second > 0 ? second : MISSING;
@@ -2188,21 +2194,6 @@ public final class LinkedUnits {
           functionEnd();
           break;
       }
-      return step + 1;
-    }
-
-    /** Works out a size, whose faults are not told: 0 if it is no constant, or below 1. */
-    private int constant(int from, int to) {
-      int start = code.length;
-      for (int i = from; i < to && unit.fault == 0; i++) {
-        expressions.take(i);
-      }
-      boolean right = unit.fault == 0;
-      unit.fault = 0;
-      code.cut(start);
-      Operand o = expressions.top();
-      expressions.count = 0;
-      return right && o.isConstant() ? Math.max(o.value, 0) : 0;
     }
 
     private void variable(int token, int newType, int second) {
@@ -2232,7 +2223,7 @@ public final class LinkedUnits {
     }
 
     private void local(int token, boolean set) {
-      if (unit.isInScope(token)) {
+      if (unit.localFrom(unit.scopeStart(), token) >= 0) {
         unit.fail(Unit.MEANS_NOTHING, token);
       }
       if (unit.locals >= MOST_NAMES) {
@@ -2378,7 +2369,7 @@ public final class LinkedUnits {
     }
 
     private void parameter(int token, int parameterType) {
-      if (at(tokens.kinds, token) != Tokens.NAME || unit.isInScope(token)) {
+      if (at(tokens.kinds, token) != Tokens.NAME || unit.localFrom(0, token) >= 0) {
         unit.fail(Unit.MEANS_NOTHING, token);
       } else {
         unit.declareLocal(token, parameterType, NO_ARRAY);
@@ -2447,18 +2438,34 @@ public final class LinkedUnits {
       int step = 0;
       for (int n = grammar.count; n > 0 && step < grammar.count && unit.fault == 0; n--) {
         int act = at(grammar.acts, step);
-        if (act >= Grammar.FIRST_DECLARATION) {
-          step = declarations.take(step);
+        if (act < Grammar.FIRST_STATEMENT) {
+          expressions.take(step);
+        } else if (act < Grammar.FIRST_DECLARATION) {
+          take(act, step);
+        } else if (act != Grammar.SIZE) {
+          declarations.take(act, step);
         } else {
-          if (act < Grammar.FIRST_STATEMENT) {
-            expressions.take(step);
-          } else {
-            take(act, step);
-          }
-          step++;
+          int end = at(grammar.firsts, step);
+          declarations.given = constant(step + 1, end);
+          step = Math.max(step, end);
         }
+        step++;
       }
       unit.finish();
+    }
+
+    /** Works out a size, whose faults are not told: 0 if it is no constant, or below 1. */
+    private int constant(int from, int to) {
+      int start = code.length;
+      for (int i = from; i < to && unit.fault == 0; i++) {
+        expressions.take(i);
+      }
+      boolean right = unit.fault == 0;
+      unit.fault = 0;
+      code.cut(start);
+      Operand o = expressions.top();
+      expressions.count = 0;
+      return right && o.isConstant() ? Math.max(o.value, 0) : 0;
     }
 
     private void take(int act, int step) {
@@ -2810,16 +2817,6 @@ public final class LinkedUnits {
         }
       }
     }
-
-    /** The object whose instruction stands at a place, or 0. */
-    private int objectAt(int place) {
-      for (int o = 1; o <= store.objects && place >= 0; o++) {
-        if (place < at(store.codeEnds, o)) {
-          return o;
-        }
-      }
-      return 0;
-    }
   }
 
   /** The bytes that go into a run and those that come out of it. */
@@ -2926,7 +2923,8 @@ public final class LinkedUnits {
     private int outcome;
     private int turned = 0;
     private int answer = 0;
-    private int trapObject = 0;
+    /** The word behind which a trap was met, or -1 where there is none. */
+    private int trapPlace = -1;
     private int trapLine = 0;
     private int strayed = 0;
 
@@ -2961,7 +2959,7 @@ public final class LinkedUnits {
       outcome = RUNNING;
       turned = 0;
       answer = 0;
-      trapObject = 0;
+      trapPlace = -1;
       trapLine = 0;
       calls = 0;
       next = 0;
@@ -2977,7 +2975,7 @@ public final class LinkedUnits {
 
     private void fail(int kind, int line) {
       outcome = kind;
-      trapObject = image.objectAt(next - 1);
+      trapPlace = next - 1;
       trapLine = line;
     }
 
