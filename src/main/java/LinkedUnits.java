@@ -2871,7 +2871,7 @@ public final class LinkedUnits {
     private boolean print(int x) {
       long left = Math.abs((long) x);
       long unit = 1;
-      for (int n = 0; n < 10 && left / unit >= 10; n++) {
+      for (int n = 0; n < 10 && unit * 10 <= left; n++) {
         unit *= 10;
       }
       boolean room = x >= 0 || put('-');
@@ -3078,8 +3078,10 @@ public final class LinkedUnits {
           return a + unsigned > b + unsigned;
         case Code.NOT_ABOVE:
           return a + unsigned <= b + unsigned;
-        default:
+        case Code.NOT_BELOW:
           return a + unsigned >= b + unsigned;
+        default:
+          return false;
       }
     }
 

@@ -7,6 +7,7 @@ public final class LimitTest {
     heights();
     data();
     objects();
+    densestTexts();
     Trial.finish("LimitTest");
   }
 
@@ -139,6 +140,27 @@ public final class LimitTest {
     Trial.faultAt(2, full.length() + 4, full + "int a;");
     tooMuch(full + "int ", "e = x;");
     tooMuch(full + "extern int e; int ", "e;");
+  }
+
+  /** No text makes more instructions a byte than strings that fill local arrays. */
+  private static void densestTexts() {
+    StringBuilder unit = new StringBuilder("static int f() { int z = 0");
+    for (int i = 0; i < 75; i++) {
+      unit.append(",a").append((char) ('A' + i % 26)).append((char) ('a' + i / 26)).append("[]=\"");
+      unit.append("x".repeat(199)).append("y\"");
+    }
+    unit.append("; return aAa[198] + aWc[199]; }");
+    Trial t = new Trial();
+    for (int i = 1; i <= 4; i++) {
+      Trial.due("unit " + i, t.compile(unit + (i == 4 ? " int main() { return 5 * f(); }" : ""), i - 1), i);
+    }
+    t.units.pick(4);
+    Trial.due("link()", t.units.link(), 0);
+    Trial.due("a frame of 15000 cells", t.units.run(9), 3);
+    Trial small = new Trial();
+    Trial.due("run", small.go("int f() { int a[] = \"" + "x".repeat(199) + "y\"; return a[198] + a[199]; }"
+        + " int main() { return f(); }", 1, 9), 0);
+    Trial.due("result()", small.units.result(), 'x' + 'y');
   }
 
   private static void objects() {
