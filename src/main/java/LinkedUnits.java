@@ -599,6 +599,8 @@ public final class LinkedUnits {
     private static final int PLAIN_LINKAGE = 0;
     private static final int STATIC_LINKAGE = 1;
     private static final int EXTERN_LINKAGE = 2;
+    private static final int LINKAGE = 3;
+    /** Above the linkage: of a variable, and of a function. */
     private static final int WITH_INITIAL = 4;
     private static final int WITH_BODY = 4;
     /** A function's result plus 1 is counted in these, above its linkage and body. */
@@ -2197,7 +2199,7 @@ public final class LinkedUnits {
     }
 
     private void variable(int token, int newType, int second) {
-      int linkage = second & 3;
+      int linkage = second & Grammar.LINKAGE;
       boolean set = (second & Grammar.WITH_INITIAL) != 0;
       type = newType;
       extent = square < 0 ? NO_ARRAY : size >= 1 && size <= MOST_SIZE ? size : 0;
@@ -2347,7 +2349,7 @@ public final class LinkedUnits {
 
     private void function(int token, int signature, int second) {
       int result = second / Grammar.RESULT_UNIT - 1;
-      boolean isStatic = (second & 3) == Grammar.STATIC_LINKAGE;
+      boolean isStatic = (second & Grammar.LINKAGE) == Grammar.STATIC_LINKAGE;
       boolean body = (second & Grammar.WITH_BODY) != 0;
       int d = unit.outerOf(token);
       boolean may = d < 0 || store.is(d, Store.FUNCTION) && at(store.types, d) == result

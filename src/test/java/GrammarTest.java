@@ -195,6 +195,14 @@ public final class GrammarTest {
     Trial.faultAt(1, 60, "int a[] = { " + repeat("- ", 25) + "1 };");
     Trial.right("int a = " + repeat("(", 24) + "1" + repeat(")", 24) + ";");
     Trial.faultAt(1, 32, "int a = " + repeat("(", 25) + "1" + repeat(")", 25) + ";");
+    String[] heads = {"if (", "while (", "do ; while (", "for (", "for (;", "for (;;", "return ", "", "int x = ",
+        "int x[", "int x[] = { ", "int x[] = { 1, "};
+    String[] tails = {") ;", ") ;", ");", ";;) ;", ";) ;", ") ;", ";", ";", ";", "];", " };", " };"};
+    for (int k = 0; k < heads.length; k++) {
+      String head = "int f() { " + heads[k];
+      Trial.right(head + repeat("(", 24) + "1" + repeat(")", 24) + tails[k] + " return 0; }");
+      Trial.faultAt(1, head.length() + 24, head + repeat("(", 25) + "1" + repeat(")", 25) + tails[k] + " return 0; }");
+    }
     // Both kinds of depth are counted on their own.
     Trial.right("int f() { " + repeat("{", 24) + repeat("(", 24) + "1" + repeat(")", 24) + ";" + repeat("}", 24) + " }");
     // Many brackets one behind the other are not deep.

@@ -66,6 +66,16 @@ public final class RunTest {
     value(1, "(int *) least > (int *) big");
     value(1, "(int *) minus >= (int *) minus");
     value(0, "(int *) minus <= (int *) 5");
+    value(0, "row < row");
+    value(0, "row > row");
+    value(1, "row <= row");
+    value(1, "row >= row");
+    value(0, "row + 1 < row");
+    value(0, "row > row + 1");
+    value(0, "row >= row + 1");
+    value(0, "row + 1 <= row");
+    value(1, "row <= row + 1");
+    value(1, "row + 1 >= row");
     value(1, "(int *) minus == (int *) -1");
     value(1, "(int *) minus != 0");
     value(1, "(int *) zero == 0");
@@ -167,6 +177,8 @@ public final class RunTest {
     Trial.gives('a' + 'b', Trial.main("int a[] = \"ab\"; return a[0] + a[1] + a[2];"));
     Trial.gives('b', Trial.main("int a[2] = \"ab\"; return a[1];"));
     Trial.gives('a', Trial.main("int a[5] = \"a\"; return a[0] + a[1] + a[4];"));
+    Trial.gives('b' + 7, Trial.main("int x = 7; int a[] = \"ab\"; int y; int *p = &y; return a[1] + x + a[2] + *p;"));
+    Trial.gives(9, Trial.main("int x = 7; int a[] = { 1, 2 }; int y; int *p = &y; return a[1] + x + a[2 - 2] - 1 + *p;"));
     framesInMemory();
   }
 
