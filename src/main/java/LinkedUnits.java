@@ -260,6 +260,7 @@ public final class LinkedUnits {
 
     private static final int LONGEST_NAME = 24;
     private static final int LONGEST_STRING = 200;
+    private static final int LONGEST_SIGN = 3;
 
     private final byte[] text;
     private int size;
@@ -497,13 +498,19 @@ public final class LinkedUnits {
     }
 
     private boolean sign() {
-      for (int length = 3; length > 0; length--) {
+      int longest = mayGoOn(byteAt(position + 1)) ? LONGEST_SIGN : 1;
+      for (int length = longest; length > 0; length--) {
         int sign = listed(SIGNS, length);
         if (sign >= 0) {
           return add(ROUND + sign, 0, length);
         }
       }
       return bad(position);
+    }
+
+    /** Whether a byte may stand behind the first one of a sign. */
+    private static boolean mayGoOn(int c) {
+      return c == '=' || c == '<' || c == '>' || c == '+' || c == '-' || c == '&' || c == '|';
     }
 
     /** Puts a string's codes into the row of codes, a 0 behind them: how many codes it has. */

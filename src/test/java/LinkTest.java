@@ -13,6 +13,7 @@ public final class LinkTest {
     imageStays();
     cells();
     oneUnitInSeveralImages();
+    hundredObjects();
     Trial.finish("LinkTest");
   }
 
@@ -219,6 +220,32 @@ public final class LinkTest {
       Trial.due("cell " + name, t.cell(name), 0);
     }
     Trial.due("tray is used up", t.units.end(1), -1);
+  }
+
+  /** As many objects as there may be, each with a symbol that the next one needs. */
+  private static void hundredObjects() {
+    Trial t = new Trial();
+    t.compile("int v1 = 5, *p1 = &v1; int f1() { return *p1; }", 0);
+    for (int i = 2; i < 100; i++) {
+      t.compile("int f" + (i - 1) + "(); extern int v" + (i - 1) + ", v" + i + "; int *p" + i + " = &v" + i + "; int f" + i
+          + "() { return *p" + i + " + f" + (i - 1) + "() + v" + (i - 1) + "; } int v" + i + " = " + i + ";", i % 4);
+    }
+    Trial.due("compile", t.compile("int f99(); int last = 7; int *p = &last; int main() { return f99() + *p; }", 1), 100);
+    for (int i = 100; i >= 1; i--) {
+      Trial.due("pick", t.units.pick(i), 101 - i);
+    }
+    Trial.due("link()", t.units.link(), 0);
+    Trial.due("run", t.units.run(1000), 0);
+    // 5 + (2 + 5) + the sums of each number and the one before it.
+    int sum = 5 + 2 + 5;
+    for (int i = 3; i < 100; i++) {
+      sum += i + i - 1;
+    }
+    Trial.due("result()", t.units.result(), sum + 7);
+    Trial.due("turns()", t.units.turns(), 100);
+    Trial.due("cell last", t.cell("last"), 16);
+    Trial.due("cell v1", t.cell("v1"), 16 + 2 + 98 * 2);
+    Trial.due("peek of p", t.units.peek(17), 16);
   }
 
   private static void oneUnitInSeveralImages() {

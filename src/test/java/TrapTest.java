@@ -16,6 +16,7 @@ public final class TrapTest {
     wrongFuel();
     objectsOfTraps();
     afterRuns();
+    longRuns();
     Trial.finish("TrapTest");
   }
 
@@ -260,6 +261,28 @@ public final class TrapTest {
       Trial.due("run", t.units.run(1), 4);
       Trial.due("trap(0)", t.units.trap(0), 3);
       Trial.due("trap(1)", t.units.trap(1), 3);
+    }
+  }
+
+  /** Nothing is left behind by statements that are worked out 20000 times. */
+  private static void longRuns() {
+    String[] bodies = {
+      "x; x; x; x; x; x; x; x; x; x;",
+      "1; \"s\"; x + 1; -x; x = 1; x++; *p; *p = 1; (*p)++; a[1];",
+      "int y; int z = x; int *q = p; int b[2] = { 1, 2 }; int c[] = \"ab\"; int d = z, e = y;",
+      "x && x; x || x; x ? x : 1; !x; x += 1; a[0] -= 1; *p = x; &x; (int) p; p == a;",
+      "g(); f(1); g(); f(x); get(); g(); f(f(1)); get(); g(); f(2) + f(3);",
+      "if (x) x = 0; else x = 1; do x++; while (x < 0); while (x > 5) x = 0; for (x; x < 0; x++) ; for (x; 0; x) ;",
+      "if (x++ & 1) continue; x; x; x; x; { x; { x; x; } x; } x; x; x; if (!x) break;",
+    };
+    for (String body : bodies) {
+      for (int level = 0; level <= 3; level++) {
+        Trial t = new Trial();
+        Trial.due("run of " + body, t.go(LIB + "int g0; void g() { g0; g0++; } int f(int n) { n; return n; }"
+            + " int main() { int x = 1; int a[2]; int *p = a; for (;;) { " + body + " } }", level, 20000), 4);
+        Trial.due("turns() of " + body, t.units.turns(), 20000);
+        Trial.due("strays() of " + body, t.units.strays(), 0);
+      }
     }
   }
 
