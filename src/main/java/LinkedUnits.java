@@ -272,7 +272,7 @@ public final class LinkedUnits {
     private final int[] values = new int[MOST_BYTES + 2];
     private final int[] places = new int[MOST_BYTES + 2];
     private final int[] lines = new int[MOST_BYTES + 2];
-    private final int[] codes = new int[LONGEST_STRING + 1];
+    private final int[] codes = new int[LONGEST_STRING];
 
     private Tokens(byte[] text) {
       this.text = text;
@@ -513,7 +513,7 @@ public final class LinkedUnits {
       return c == '=' || c == '<' || c == '>' || c == '+' || c == '-' || c == '&' || c == '|';
     }
 
-    /** Puts a string's codes into the row of codes, a 0 behind them: how many codes it has. */
+    /** Puts a string's codes into the row of codes: how many it has. */
     private int readCodes(int token) {
       int n = Math.min(at(values, token), LONGEST_STRING);
       int i = at(places, token) + 1;
@@ -521,7 +521,6 @@ public final class LinkedUnits {
         set(codes, k, codeAt(i, '"'));
         i += widthAt(i);
       }
-      set(codes, n, 0);
       return n;
     }
 

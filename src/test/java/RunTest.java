@@ -179,6 +179,11 @@ public final class RunTest {
     Trial.gives('a', Trial.main("int a[5] = \"a\"; return a[0] + a[1] + a[4];"));
     Trial.gives('b' + 7, Trial.main("int x = 7; int a[] = \"ab\"; int y; int *p = &y; return a[1] + x + a[2] + *p;"));
     Trial.gives(9, Trial.main("int x = 7; int a[] = { 1, 2 }; int y; int *p = &y; return a[1] + x + a[2 - 2] - 1 + *p;"));
+    // An array's declaration clears its own cells and no others: y's is still as it was left.
+    Trial.gives(5, Trial.main("int *p = 0; int i; int s = 0; for (i = 0; i < 2; i++) { int a[2]; if (p) s = *p;"
+        + " int y = 5; p = &y; } return s;"));
+    Trial.gives(56, Trial.main("int *p = 0; int i; int s = 0; for (i = 0; i < 2; i++) { int x; int a[2] = \"q\";"
+        + " if (p) s = p[0] * 10 + p[1]; int y = 5; int z = 6; p = &y; &z; &x; } return s;"));
     framesInMemory();
   }
 
