@@ -145,6 +145,11 @@ final class Trial {
     return "int main() { " + statements + " }";
   }
 
+  /** How many answers were asked so far. */
+  static int asked() {
+    return asked;
+  }
+
   static void finish(String name) {
     System.out.println(name + ": " + asked + " answers, " + wrong + " wrong");
     System.exit(wrong == 0 && asked > 0 ? 0 : 1);
