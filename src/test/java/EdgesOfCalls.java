@@ -41,6 +41,16 @@ final class EdgesOfCalls {
     Trial.due("pick(1)", t.units.pick(1), 2);
     Trial.due("link()", t.units.link(), 0);
     Trial.due("link() of nothing", t.units.link(), -34);
+    // What was picked for the link() before does not count.
+    t.compile("int w[4000], x[4000], y[4000], z[4000]; " + MAIN, 1);
+    t.compile("int more();", 2);
+    for (int k = 0; k < 2; k++) {
+      t.units.pick(4);
+      t.units.pick(3);
+      Trial.due("link()", t.units.link(), 0);
+      Trial.due("pick(3)", t.units.pick(3), 1);
+      Trial.due("link()", t.units.link(), 0);
+    }
     String[] texts = {"int a;", "int", "int a = b;", "int a[4001];", ""};
     for (String text : texts) {
       for (int level : new int[] {-1, 0, 1, 2, 3, 4}) {

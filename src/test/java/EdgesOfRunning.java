@@ -187,6 +187,23 @@ final class EdgesOfRunning {
         Trial.due("peek(" + at[i] + ")", t.units.peek(at[i]), want[i]);
       }
     }
+    allParametersHaveCells();
+  }
+
+  /** Eight parameters with cells: they fill their frame and nothing above it. */
+  private static void allParametersHaveCells() {
+    for (int level = 0; level <= 3; level++) {
+      Trial t = new Trial();
+      t.go("int f(int a, int b, int c, int d, int e, int g, int h, int i) { &a; &b; &c; &d; &e; &g; &h; &i; return (int) &a; }"
+          + " int main() { int z[40], k; for (k = 0; k < 40; k++) z[k] = 100 + k; return f(1, 2, 3, 4, 5, 6, 7, 8); }", level, 99);
+      int main = 32768 - 32 - 40;
+      int f = main - 32 - 8;
+      Trial.due("result()", t.units.result(), f);
+      for (int i = -40; i < 8 + 32 + 40 + 32; i++) {
+        int want = i >= 0 && i < 8 ? i + 1 : i >= 40 && i < 80 ? 60 + i : 0;
+        Trial.due("peek(" + (f + i) + ")", t.units.peek(f + i), want);
+      }
+    }
   }
 
   /** The cells of main's frame, and that none stand around them. */

@@ -604,6 +604,8 @@ final class EdgesOfTexts {
     Trial.right(G + "- ".repeat(24) + "a; }");
     Trial.faultAt(1, G.length() + 48, G + "- ".repeat(25) + "a; }");
     Trial.right(G + "a = ".repeat(24) + "a; }");
+    Trial.right(G + "p[".repeat(24) + "1" + "]".repeat(24) + "; }");
+    Trial.faultAt(1, G.length() + 24 * 2 + 1, G + "p[".repeat(25) + "1" + "]".repeat(25) + "; }");
     Trial.faultAt(1, G.length() + 24 * 4 + 2, G + "a = ".repeat(25) + "a; }");
   }
 
