@@ -86,6 +86,37 @@ final class EdgesOfLinking {
     symbols("extern int a; extern int a;", "a1");
     symbols("extern int a[]; int a[3];", "a5");
     symbols("extern int f() { return 0; } extern int g();", "f6 g2");
+    afterFaults();
+  }
+
+  /** What a unit with a fault declared is nothing to the units behind it. */
+  private static void afterFaults() {
+    String[] faulty = {
+      "static int a() { return 1; } static int b[3] = { 1, 2 }; static int c() { return a() + b[0]; } int x = nothing;",
+      "extern int a; extern int b[]; int *p = &a, *q = b; int x[0];",
+      "int a(int, int *); void b(int **x) { a(1, *x); } int *c() { b(0); return 0; } int x[4001];",
+      "int a = 5, *b = \"abc\", c[4000], d[4000], e[4000], f[4000];",
+    };
+    for (String text : faulty) {
+      for (int level = 0; level <= 3; level++) {
+        Trial t = new Trial();
+        Trial.due("compile of " + text, t.compile(text, level) < 0 ? 1 : 0, 1);
+        Trial.due("compile behind it", t.compile("extern int a; int b, c[2]; int *d; int main() { return b + c[1] + (d != 0); }", level), 1);
+        StringBuilder got = new StringBuilder();
+        for (int s = 0; s < t.units.count(1, 0); s++) {
+          got.append(t.nameOf(1, s)).append(t.units.symbol(1, s)).append(' ');
+        }
+        Trial.due("symbols behind " + text, got.toString(), "a1 b5 c5 d5 main6 ");
+        Trial.due("count(1, 1) behind " + text, t.units.count(1, 1), 4);
+        t.units.pick(1);
+        Trial.due("link()", t.units.link(), 0);
+        Trial.due("run", t.units.run(1), 0);
+        Trial.due("result() behind " + text, t.units.result(), 0);
+        for (int i = 16; i < 24; i++) {
+          Trial.due("peek(" + i + ") behind " + text, t.units.peek(i), 0);
+        }
+      }
+    }
   }
 
   private static void peeks(String text, int... want) {
@@ -323,6 +354,28 @@ final class EdgesOfLinking {
     Trial.due("cell a", t.cell("a"), 20);
     Trial.due("cell 32767", t.units.peek(32767), 9);
     Trial.due("cell 32768", t.units.peek(32768), 0);
+    // No object's initials are put among another's data.
+    Trial u = new Trial();
+    u.compile("int a[3] = { 1, 2, 3 };", 1);
+    u.compile("int b[5];", 2);
+    u.compile("int c[3] = { 0, 4 }; int d[4]; " + MAIN, 3);
+    int[][] orders = {{1, 2, 3}, {3, 2, 1}, {2, 3}, {3, 2}, {3}};
+    int[][] sizes = {{}, {1, 2, 3}, {0, 0, 0, 0, 0}, {0, 4, 0, 0, 0, 0, 0}};
+    for (int[] picks : orders) {
+      for (int o : picks) {
+        u.units.pick(o);
+      }
+      Trial.due("link()", u.units.link(), 0);
+      Trial.due("run", u.units.run(1), 0);
+      int cell = 16;
+      for (int o : picks) {
+        for (int value : sizes[o]) {
+          Trial.due("cell " + cell, u.units.peek(cell), value);
+          cell++;
+        }
+      }
+      Trial.due("behind the data", u.units.peek(cell), 0);
+    }
     Sentence.says("A pointer is the number of a cell.");
     Trial.gives(17, "int a, b; int main() { return (int) &b; }");
     Trial.gives(5, "int a, b = 5; int main() { return *(int *) 17; }");

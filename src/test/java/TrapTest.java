@@ -270,6 +270,7 @@ public final class TrapTest {
       "x; x; x; x; x; x; x; x; x; x;",
       "1; \"s\"; x + 1; -x; x = 1; x++; *p; *p = 1; (*p)++; a[1];",
       "int y; int z = x; int *q = p; int b[2] = { 1, 2 }; int c[] = \"ab\"; int d = z, e = y;",
+      "int b[1], c[2], d[1 + 1], e[3 - 2], f[-(-1)], y[!0], z[2 << 1], u[1], v[1], w[1] = { 1 };",
       "x && x; x || x; x ? x : 1; !x; x += 1; a[0] -= 1; *p = x; &x; (int) p; p == a;",
       "g(); f(1); g(); f(x); get(); g(); f(f(1)); get(); g(); f(2) + f(3);",
       "if (x) x = 0; else x = 1; do x++; while (x < 0); while (x > 5) x = 0; for (x; x < 0; x++) ; for (x; 0; x) ;",
