@@ -266,6 +266,9 @@ final class EdgesOfLinking {
       links(-33, 1, 1, pair[1], "static int s; int z; " + pair[0], MAIN);
     }
     links(-33, 1, 0, "int a[3];", "extern int a[]; extern int a[4];", MAIN);
+    links(-33, 1, 0, "extern int a[]; int a[1];", "extern int a[2];", MAIN);
+    links(-33, 1, 0, "int a[2];", "extern int a[]; extern int a[1];", MAIN);
+    fine("extern int a[]; int a[1];", "extern int a[]; extern int a[1];", MAIN);
     fine("int a[3];", "extern int a[3]; extern int a[];", MAIN);
     fine("extern int a;", "extern int *a;", "int a();", MAIN);
     fine("static int a;", "extern int *a;", MAIN);

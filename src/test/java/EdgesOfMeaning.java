@@ -279,6 +279,8 @@ final class EdgesOfMeaning {
     Trial.fault(2, "extern int s[]; extern int s[3]; extern int s[]; int ^s[2];");
     Trial.fault(2, "extern int s[3]; extern int ^s[4];");
     Trial.fault(2, "extern int s[1]; int ^s[2];");
+    Trial.fault(2, "extern int s[]; int s[1]; extern int ^s[2];");
+    Trial.fault(2, "extern int s[]; extern int s[1]; int ^s[2];");
     Trial.fault(2, "extern int s[2]; int ^s[1];");
     Trial.fault(2, "int s[4000]; extern int ^s[3999];");
     Trial.fault(2, "int s[1]; extern int ^s[4000];");

@@ -203,6 +203,20 @@ final class EdgesOfRunning {
         int want = i >= 0 && i < 8 ? i + 1 : i >= 40 && i < 80 ? 60 + i : 0;
         Trial.due("peek(" + (f + i) + ")", t.units.peek(f + i), want);
       }
+      // Many locals without cells take no room in the frame.
+      StringBuilder many = new StringBuilder("int f(int a, int b) { &a; ");
+      for (int i = 0; i < 98; i++) {
+        many.append("int z").append(i).append(" = 7; ");
+      }
+      Trial u = new Trial();
+      u.go(many + "return (int) &a; } int main() { f(5, 6); return f(3, 4); }", level, 99);
+      f = 32768 - 32 - 32 - 1;
+      Trial.due("result()", u.units.result(), f);
+      for (int i = 24576; i < 32768; i++) {
+        if (i == f || u.units.peek(i) != 0) {
+          Trial.due("peek(" + i + ")", u.units.peek(i), i == f ? 3 : 0);
+        }
+      }
     }
   }
 
@@ -232,6 +246,11 @@ final class EdgesOfRunning {
     Trial.gives(0, "int f(int x) { if (x) return 5; } int main() { return f(0); }");
     Trial.gives(1, "int *f() { } int main() { return f() == 0; }");
     Trial.gives(0, "int main() { }");
+    Trial.gives(0, "int f(int x) { x = 8; } int main() { return f(7); }");
+    Trial.gives(0, "int f(int x, int y) { int z = 9; z++; } int main() { int w = 6; return f(7, 8); }");
+    Trial.gives(0, "int f(int x) { int y = 9; if (x < 0) return 1; while (x) x--; } int main() { return f(3); }");
+    Trial.gives(4, "int f(int x) { int y = 9; } int main() { return 4 + f(3) * 5; }");
+    Trial.gives(0, Trial.main("int x = 5; x + 1;"));
     Trial.gives(3, Trial.main("int i; for (i = 0; ; i++) if (i == 3) break; return i;"));
     Trial.gives(6, Trial.main("int i, s = 0; for (i = 0; i < 4; i++) { if (i < 0) continue; s += i; } return s;"));
     Trial.gives(4, Trial.main("int i, s = 0; for (i = 0; i < 4; i++) { if (i & 1) continue; s += i + 1; } return s;"));
